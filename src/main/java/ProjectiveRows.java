@@ -660,9 +660,9 @@ public final class ProjectiveRows {
             long square = a;
             for (long left = exponent; left > 0; left >>= 1) {
                 if ((left & 1) == 1) {
-                    result = times(result, square);
+                    result = result * square % p;
                 }
-                square = times(square, square);
+                square = square * square % p;
             }
             return result;
         }
@@ -671,16 +671,12 @@ public final class ProjectiveRows {
             return power(a, p - 2);
         }
 
-        boolean isSquare(long v) {
-            return v == 0 || power(v, (p - 1) / 2) == 1;
-        }
-
         /** The lesser root; NONE if there is none. */
         long squareRoot(long v) {
             if (v == 0) {
                 return 0;
             }
-            if (!isSquare(v)) {
+            if (power(v, (p - 1) / 2) != 1) {
                 return NONE;
             }
             int twos = 0;
@@ -707,7 +703,7 @@ public final class ProjectiveRows {
 
         private long leastNonSquare() {
             for (long v = 2; v < p; v++) {
-                if (!isSquare(v)) {
+                if (power(v, (p - 1) / 2) != 1) {
                     return v;
                 }
             }

@@ -523,6 +523,7 @@ public final class PromisesTest {
         due("17: three", x.order(Check.make(x, MAP, 0, 0, 5, 1, 0, 0, 0, 2, 0)), 3);
         due("17: p", x.order(Check.make(x, MAP, 1, 1, 0, 0, 1, 0, 0, 0, 1)), 7);
         due("17: six and seven", x.order(Check.make(x, MAP, 1, 1, 0, 0, 1, 0, 0, 0, 3)), 42);
+        due("17: e0 alone moves", x.order(Check.make(x, MAP, 1, 0, 0, 3, 1, 0, 4, 0, 1)), 7);
         due("17: a point", x.order(Check.point(x, 1, 0, 0)), BAD);
         due("17: no object", x.order(60), BAD);
         x = Check.begun(2, 997);
@@ -591,6 +592,21 @@ public final class PromisesTest {
         due("20: four on a line, one elsewhere", x.quadric(), NONE);
         x.gather(Check.point(x, 1, 0, 2));
         Check.row(x, "20: two lines", x.quadric(), QUADRIC, 0, 0, 0, 0, 0, 1, 0, 1, 0);
+
+        x.forget();
+        for (int t = 0; t < 4; t++) {
+            x.gather(Check.point(x, 1, t, -1 - t));
+        }
+        x.gather(Check.point(x, 1, 0, 0));
+        x.gather(Check.point(x, 1, 1, 1));
+        // (x0 + x1 + x2) (x1 - x2)
+        Check.row(x, "20: two others", x.quadric(), QUADRIC, 0, 1, 12, 1, 2, 0, 12, 0, 11);
+        x.forget();
+        long[][] circle = {{1, 1, 0}, {1, 12, 0}, {1, 0, 1}, {1, 0, 12}, {1, 2, 6}};
+        for (long[] row : circle) {
+            x.gather(Check.point(x, row));
+        }
+        Check.row(x, "20: a circle", x.quadric(), QUADRIC, 1, 0, 0, 0, 12, 0, 0, 0, 12);
 
         x = Check.begun(3, 11);
         // x0 x3 = x1 x2
@@ -675,6 +691,15 @@ public final class PromisesTest {
         int y = Check.line(x, 3, 0, 6);
         due("23: 3 is no square", x.touches(q, y), 0);
         due("24: none", x.common(q, y, 0), NONE);
+        int s = Check.line(x, 1, -4, 3);
+        // 1 - 4 t + 3 t t is 0 at 1 and at a third, which is 5.
+        due("23: two at any places", x.touches(q, s), 2);
+        Check.row(x, "24: 1", x.common(q, s, 0), POINT, 1, 1, 1);
+        Check.row(x, "24: 5", x.common(q, s, 1), POINT, 1, 5, 4);
+        int last = Check.line(x, 3, 1, 0);
+        due("23: one at t, and the last", x.touches(q, last), 2);
+        Check.row(x, "24: at t", x.common(q, last, 0), POINT, 1, 4, 2);
+        Check.row(x, "24: the last", x.common(q, last, 1), POINT, 0, 0, 1);
         int pair = Check.make(x, QUADRIC, 0, 0, 0, 0, 0, 1, 0, 1, 0);
         due("23: the line is on the quadric", x.touches(pair, z), 8);
         Check.row(x, "24: t = 0", x.common(pair, z, 0), POINT, 1, 0, 0);
@@ -919,6 +944,9 @@ public final class PromisesTest {
         long[][] off = {{1, 0, 0}, {1, 0, 1}, {1, 1, 0}, {1, 2, 1}, {1, 4, 0}, {1, 5, 2}};
         gatherAll(x, off);
         due("30: 1 3 5 are on no line", x.holds(0), NONE);
+        long[][] offFirst = {{1, 0, 0}, {1, 0, 1}, {1, 1, 0}, {1, 2, 1}, {1, 4, 2}, {1, 5, 1}};
+        gatherAll(x, offFirst);
+        due("30: 0 2 4 are on no line", x.holds(0), NONE);
         long[][] five = {{1, 0, 0}, {1, 0, 1}, {1, 1, 0}, {1, 2, 1}, {1, 4, 0}};
         gatherAll(x, five);
         due("30: five", x.holds(0), NONE);
@@ -967,7 +995,7 @@ public final class PromisesTest {
         long[][] again = {{1, 0, 0}, {1, 3, 9}, {1, 1, 1}, {1, 7, 49}, {1, 7, 49}, {1, 4, 16}};
         gatherAll(x, again);
         due("30: no LINE 3 4", x.holds(2), NONE);
-        // Five of two lines: 0 1 2 on one, so 0 1 and 3 4, 1 2 and 4 5, 2 3 and 5 0.
+        // 0 1 2 on one line, 3 4 5 on another: two of the POINTS are where both meet.
         long[][] two = {{1, 0, 0}, {1, 1, 0}, {1, 2, 0}, {1, 0, 1}, {1, 3, 1}, {1, 5, 1}};
         gatherAll(x, two);
         due("30: POINTS that are the same", x.holds(2), 1);
