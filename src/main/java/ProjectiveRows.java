@@ -681,9 +681,8 @@ public final class ProjectiveRows {
             }
             int twos = 0;
             long odd = p - 1;
-            while (odd > 1 && odd % 2 == 0) {
+            for (; twos < 32 && odd % 2 == 0; twos++) {
                 odd /= 2;
-                twos++;
             }
             long root = power(v, (odd + 1) / 2);
             long excess = power(v, odd);
