@@ -82,7 +82,7 @@ public final class PromisesTest {
         due("2: the refused left p", x.told(1), GREATEST);
         for (int p = 0; p < 3000; p++) {
             int want = p != 2 && BigInteger.valueOf(p).isProbablePrime(60) ? 1 : BAD;
-            due("2: begin(2, " + p + ")", x.begin(2, p), want);
+            due("2: begin(2, " + p + ")", new ProjectiveRows().begin(2, p), want);
         }
         allGoes();
     }
@@ -751,6 +751,8 @@ public final class PromisesTest {
         for (int p : small) {
             ProjectiveRows x = Check.begun(2, p);
             for (long v = -p; v <= 2L * p; v++) {
+                // What is answered behind the 512th call of one object is free.
+                x = v == 0 || v == p ? Check.begun(2, p) : x;
                 int want = NONE;
                 for (int r = p - 1; r >= 0; r--) {
                     want = Math.floorMod((long) r * r - v, (long) p) == 0 ? r : want;
