@@ -247,8 +247,9 @@ public final class EdgesTest {
                 scene.leaves("6: SORT", x -> x.sort(a), kind);
                 for (int i = 0; i <= last; i++) {
                     int place = i;
-                    Check.due("5: number " + i + " of SORT " + sort,
-                        scene.build().number(a, place) >= 0);
+                    int number = scene.build().number(a, place);
+                    Check.due("5: number " + i + " of SORT " + sort, number >= 0);
+                    scene.leaves("5: it is asked alone", x -> x.number(a, place), number);
                 }
             }
             scene.full().leaves("6: the 60th OBJECT", x -> x.sort(59), QUADRIC);
@@ -257,15 +258,16 @@ public final class EdgesTest {
         }
     }
 
+    /** Nothing is changed by what is asked; here and with 60 OBJECTS. */
     private static void on() {
         Scene space = BOTH.get(1);
-        space.full().leaves("9: LINES that are the same", x -> x.on(U, U), 1);
-        space.full().leaves("9: LINES with a POINT ON both", x -> x.on(U, Scene.V), 1);
-        space.full().leaves("9: LINES without", x -> x.on(U, S), 0);
+        space.leavesAlways("9: LINES that are the same", x -> x.on(U, U), 1);
+        space.leavesAlways("9: LINES with a POINT ON both", x -> x.on(U, Scene.V), 1);
+        space.leavesAlways("9: LINES without", x -> x.on(U, S), 0);
         for (Scene scene : BOTH) {
-            scene.full().leaves("9: a POINT ON the LINE", x -> x.on(G, U), 1);
-            scene.full().leaves("9: in any order", x -> x.on(U, G), 1);
-            scene.full().leaves("9: not ON it", x -> x.on(C, U), 0);
+            scene.leavesAlways("9: a POINT ON the LINE", x -> x.on(G, U), 1);
+            scene.leavesAlways("9: in any order", x -> x.on(U, G), 1);
+            scene.leavesAlways("9: not ON it", x -> x.on(C, U), 0);
         }
     }
 
@@ -330,6 +332,8 @@ public final class EdgesTest {
     }
 
     private static void order() {
+        Scene.of(2).leavesAlways("17: it is asked alone", x -> x.order(Scene.N), 3);
+        Scene.of(3).leavesAlways("17: it is asked alone", x -> x.order(Scene.N), 4);
         // 3000 is 8 times 3 times 125, and 1001 divides 6006.
         int[][] primeOrdersWant = {{3001, 1, 1, 1}, {3001, 1000, 1, 1000}, {3001, 1, 1000, 1000},
             {3001, 8, 125, 1000}, {3001, 125, 8, 1000}, {3001, 1000, 500, 1000},
@@ -406,6 +410,10 @@ public final class EdgesTest {
     }
 
     private static void rank() {
+        for (Scene scene : BOTH) {
+            scene.leavesAlways("21: RANK n + 1", x -> x.rank(Scene.Q), scene.n + 1);
+            scene.leavesAlways("21: RANK n", x -> x.rank(Scene.R), scene.n);
+        }
         for (int n = 2; n <= 3; n++) {
             for (int p : PRIMES) {
                 Asked x = begun(n, p);

@@ -53,7 +53,8 @@ public final class FullTest {
         scene.upTo(59).answers(what + " makes the 60th", call, 59);
         scene.upTo(59).then(y -> call.applyAsLong(y)).leaves(what + " is there", call, 59);
         scene.full().leaves(what + " has no room", call, FULL);
-        scene.full().then(y -> call.applyAsLong(y)).answers(what + " made none", y -> y.told(2), 60);
+        scene.full().then(y -> call.applyAsLong(y)).answers(what + " made none",
+            y -> y.told(2), 60);
     }
 
     /** What is made changes nothing but the OBJECTS, and for map the PAIRS. */

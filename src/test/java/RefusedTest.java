@@ -102,7 +102,7 @@ public final class RefusedTest {
                 for (int place = 0; place < one.objects(); place++) {
                     int at = place;
                     for (int none : new int[] {LEAST, -3, -2, -1, 60, 61, 1 << 16, GREATEST}) {
-                        scene.refuses(one.name + ", OBJECT " + none + " at " + at,
+                        scene.leavesAlways(one.name + ", OBJECT " + none + " at " + at,
                             x -> one.call.of(x, withOne(one, scene.n, at, none)), BAD);
                     }
                     int next = scene.next();
@@ -134,7 +134,7 @@ public final class RefusedTest {
                     if (one.sorts(scene.n).contains(sorts)) {
                         Check.due(what + " go", one.call.of(scene.build(), objects) != BAD);
                     } else {
-                        scene.refuses(what, x -> one.call.of(x, objects), BAD);
+                        scene.leavesAlways(what, x -> one.call.of(x, objects), BAD);
                     }
                 }
             }
@@ -152,22 +152,22 @@ public final class RefusedTest {
     private static void begin() {
         for (Scene scene : BOTH) {
             for (int n : new int[] {LEAST, -3, -2, -1, 0, 1, 4, 5, GREATEST}) {
-                scene.refuses("2: n is not 2, 3: " + n, x -> x.begin(n, 7), BAD);
+                scene.leavesAlways("2: n is not 2, 3: " + n, x -> x.begin(n, 7), BAD);
             }
             // 46337 and 46339 are the greatest primes whose squares are numbers here.
             for (int p : new int[] {LEAST, -7, -3, -2, -1, 0, 1, 2, 4, 6, 9, 15, 25, 49, 341, 561,
                 46337 * 46337, 46339 * 46339, 46337 * 46327, 2147483645, 2147483646}) {
-                scene.refuses("2: p is no odd prime: " + p, x -> x.begin(2, p), BAD);
-                scene.refuses("2: p is no odd prime: " + p, x -> x.begin(3, p), BAD);
+                scene.leavesAlways("2: p is no odd prime: " + p, x -> x.begin(2, p), BAD);
+                scene.leavesAlways("2: p is no odd prime: " + p, x -> x.begin(3, p), BAD);
             }
-            scene.refuses("2: neither", x -> x.begin(4, 8), BAD);
+            scene.leavesAlways("2: neither", x -> x.begin(4, 8), BAD);
         }
     }
 
     private static void put() {
         for (Scene scene : BOTH) {
             for (int i : new int[] {LEAST, -16, -1, 16, 17, 32, GREATEST}) {
-                scene.refuses("3: number " + i + " in hand", x -> x.put(i, 5), BAD);
+                scene.leavesAlways("3: number " + i + " in hand", x -> x.put(i, 5), BAD);
             }
         }
     }
@@ -176,8 +176,8 @@ public final class RefusedTest {
         for (Scene scene : BOTH) {
             int size = (scene.n + 1) * (scene.n + 1);
             for (int sort : new int[] {LEAST, -5, -1, 5, 6, GREATEST}) {
-                scene.refuses("4: SORT " + sort, x -> x.make(sort), BAD);
-                scene.then(x -> x.hold(new long[16])).refuses("4: SORT " + sort + ", zeros",
+                scene.leavesAlways("4: SORT " + sort, x -> x.make(sort), BAD);
+                scene.then(x -> x.hold(new long[16])).leavesAlways("4: SORT " + sort + ", zeros",
                     x -> x.make(sort), BAD);
             }
             for (int sort = POINT; sort <= QUADRIC; sort++) {
@@ -185,30 +185,31 @@ public final class RefusedTest {
                 int length = Scene.lengthOf(scene.n, sort);
                 Scene zeros = scene.then(x -> x.hold(new long[16]));
                 int want = length == 0 ? BAD : NONE;
-                zeros.refuses("4: all are 0, SORT " + sort, x -> x.make(made), want);
-                zeros.then(x -> x.put(0, Scene.P)).refuses("4: 0 modulo p, SORT " + sort,
+                zeros.leavesAlways("4: all are 0, SORT " + sort, x -> x.make(made), want);
+                zeros.then(x -> x.put(0, Scene.P)).leavesAlways("4: 0 modulo p, SORT " + sort,
                     x -> x.make(made), want);
                 if (length > 0 && length < 16) {
-                    zeros.then(x -> x.put(length, 1)).refuses("4: all of its are 0, SORT " + sort,
-                        x -> x.make(made), NONE);
+                    zeros.then(x -> x.put(length, 1)).leavesAlways(
+                        "4: all of its are 0, SORT " + sort, x -> x.make(made), NONE);
                 }
             }
-            scene.then(x -> x.hold(lastLineTwice(scene.n))).refuses("4: no inverse",
+            scene.then(x -> x.hold(lastLineTwice(scene.n))).leavesAlways("4: no inverse",
                 x -> x.make(MAP), NONE);
-            scene.refuses("4: Qij and Qji are not alike", x -> x.make(QUADRIC), NONE);
+            scene.leavesAlways("4: Qij and Qji are not alike", x -> x.make(QUADRIC), NONE);
             for (int k = 0; k < size; k++) {
                 int place = k;
                 if (k % (scene.n + 2) != 0) {
-                    scene.then(x -> x.hold(unit(scene.n))).then(x -> x.put(place, 1)).refuses(
+                    scene.then(x -> x.hold(unit(scene.n))).then(x -> x.put(place, 1)).leavesAlways(
                         "4: number " + k + " alone is not alike", x -> x.make(QUADRIC), NONE);
                 }
             }
         }
-        IN_PLANE.refuses("4: PLANE is of space alone", x -> x.make(PLANE), BAD);
+        IN_PLANE.leavesAlways("4: PLANE is of space alone", x -> x.make(PLANE), BAD);
         long[][] noLines = {{1, 0, 0, 0, 0, 1}, {0, 1, 0, 0, 1, 0}, {0, 0, 1, 1, 0, 0},
             {1, 1, 1, 1, 1, 1}, {1, 2, 3, 4, 5, 6}};
         for (long[] row : noLines) {
-            IN_SPACE.then(x -> x.hold(row)).refuses("4: no LINE of space", x -> x.make(LINE), NONE);
+            IN_SPACE.then(x -> x.hold(row)).leavesAlways("4: no LINE of space",
+                x -> x.make(LINE), NONE);
         }
     }
 
@@ -237,7 +238,8 @@ public final class RefusedTest {
                 }
                 int a = Scene.some(sort);
                 for (int i : new int[] {LEAST, -1, length, length + 1, GREATEST}) {
-                    scene.refuses("5: number " + i + " of SORT " + sort, x -> x.number(a, i), BAD);
+                    scene.leavesAlways("5: number " + i + " of SORT " + sort,
+                        x -> x.number(a, i), BAD);
                 }
             }
         }
@@ -247,34 +249,34 @@ public final class RefusedTest {
         for (Scene scene : BOTH) {
             for (int a = A; a <= G; a++) {
                 int same = a;
-                scene.refuses("7: POINTS are the same", x -> x.join(same, same), NONE);
+                scene.leavesAlways("7: POINTS are the same", x -> x.join(same, same), NONE);
             }
         }
         for (int a : new int[] {A, B, G}) {
-            IN_SPACE.refuses("7: the POINT is ON the LINE", x -> x.join(a, U), NONE);
-            IN_SPACE.refuses("7: the LINE goes through the POINT", x -> x.join(U, a), NONE);
+            IN_SPACE.leavesAlways("7: the POINT is ON the LINE", x -> x.join(a, U), NONE);
+            IN_SPACE.leavesAlways("7: the LINE goes through the POINT", x -> x.join(U, a), NONE);
         }
-        IN_SPACE.refuses("7: LINES are the same", x -> x.join(U, U), NONE);
-        IN_SPACE.refuses("7: LINES are the same", x -> x.join(S, S), NONE);
-        IN_SPACE.refuses("7: LINES that are not ON one another", x -> x.join(U, S), NONE);
-        IN_SPACE.refuses("7: LINES that are not ON one another", x -> x.join(S, U), NONE);
+        IN_SPACE.leavesAlways("7: LINES are the same", x -> x.join(U, U), NONE);
+        IN_SPACE.leavesAlways("7: LINES are the same", x -> x.join(S, S), NONE);
+        IN_SPACE.leavesAlways("7: LINES that are not ON one another", x -> x.join(U, S), NONE);
+        IN_SPACE.leavesAlways("7: LINES that are not ON one another", x -> x.join(S, U), NONE);
     }
 
     private static void meet() {
         for (int a : new int[] {U, V, W}) {
-            IN_PLANE.refuses("8: LINES are the same", x -> x.meet(a, a), NONE);
+            IN_PLANE.leavesAlways("8: LINES are the same", x -> x.meet(a, a), NONE);
         }
         for (int a : new int[] {W, THROUGH_V, BESIDE_V}) {
-            IN_SPACE.refuses("8: PLANES are the same", x -> x.meet(a, a), NONE);
+            IN_SPACE.leavesAlways("8: PLANES are the same", x -> x.meet(a, a), NONE);
         }
         int[][] linesOnPlanes = {{U, THROUGH_V}, {U, BESIDE_V}, {V, THROUGH_V}};
         for (int[] two : linesOnPlanes) {
-            IN_SPACE.refuses("8: the LINE is ON the PLANE", x -> x.meet(two[0], two[1]), NONE);
-            IN_SPACE.refuses("8: the PLANE has the LINE", x -> x.meet(two[1], two[0]), NONE);
+            IN_SPACE.leavesAlways("8: the LINE is ON the PLANE", x -> x.meet(two[0], two[1]), NONE);
+            IN_SPACE.leavesAlways("8: the PLANE has the LINE", x -> x.meet(two[1], two[0]), NONE);
         }
-        IN_SPACE.refuses("8: LINES are the same", x -> x.meet(V, V), NONE);
-        IN_SPACE.refuses("8: LINES that are not ON one another", x -> x.meet(U, S), NONE);
-        IN_SPACE.refuses("8: LINES that are not ON one another", x -> x.meet(S, U), NONE);
+        IN_SPACE.leavesAlways("8: LINES are the same", x -> x.meet(V, V), NONE);
+        IN_SPACE.leavesAlways("8: LINES that are not ON one another", x -> x.meet(U, S), NONE);
+        IN_SPACE.leavesAlways("8: LINES that are not ON one another", x -> x.meet(S, U), NONE);
     }
 
     /** Three of one SORT with RANK 2, and one that makes it 3. */
@@ -299,17 +301,17 @@ public final class RefusedTest {
         for (Scene scene : BOTH) {
             for (int[] t : threesAndOne(scene)) {
                 Scene s = withThird(scene);
-                s.refuses("10: both are 0, a b c", x -> x.cross(t[0], t[0], t[0], t[1]), NONE);
-                s.refuses("10: both are 0, a b d", x -> x.cross(t[0], t[0], t[1], t[0]), NONE);
-                s.refuses("10: both are 0, a c d", x -> x.cross(t[0], t[1], t[0], t[0]), NONE);
-                s.refuses("10: both are 0, b c d", x -> x.cross(t[1], t[0], t[0], t[0]), NONE);
-                s.refuses("10: RANK 1", x -> x.cross(t[2], t[2], t[2], t[2]), NONE);
+                s.leavesAlways("10: both are 0, a b c", x -> x.cross(t[0], t[0], t[0], t[1]), NONE);
+                s.leavesAlways("10: both are 0, a b d", x -> x.cross(t[0], t[0], t[1], t[0]), NONE);
+                s.leavesAlways("10: both are 0, a c d", x -> x.cross(t[0], t[1], t[0], t[0]), NONE);
+                s.leavesAlways("10: both are 0, b c d", x -> x.cross(t[1], t[0], t[0], t[0]), NONE);
+                s.leavesAlways("10: RANK 1", x -> x.cross(t[2], t[2], t[2], t[2]), NONE);
                 for (int at = 0; at < 4; at++) {
                     int[] o = {t[0], t[1], t[2], t[0]};
                     o[at] = t[3];
-                    s.refuses("10: RANK 3", x -> x.cross(o[0], o[1], o[2], o[3]), NONE);
+                    s.leavesAlways("10: RANK 3", x -> x.cross(o[0], o[1], o[2], o[3]), NONE);
                 }
-                s.refuses("10: RANK 3, two alike", x -> x.cross(t[0], t[1], t[3], t[3]), NONE);
+                s.leavesAlways("10: RANK 3, two alike", x -> x.cross(t[0], t[1], t[3], t[3]), NONE);
                 s.leaves("10: p, c is b", x -> x.cross(t[0], t[1], t[1], t[2]), Scene.P);
                 s.leaves("10: p, d is a", x -> x.cross(t[0], t[1], t[2], t[0]), Scene.P);
                 s.leaves("10: 0, c is a", x -> x.cross(t[0], t[1], t[0], t[2]), 0);
@@ -321,7 +323,7 @@ public final class RefusedTest {
                 s.leaves("10: 1 of two", x -> x.cross(t[0], t[0], t[1], t[1]), 1);
             }
         }
-        IN_SPACE.refuses("10: RANK 4", x -> x.cross(A, B, C, D), NONE);
+        IN_SPACE.leavesAlways("10: RANK 4", x -> x.cross(A, B, C, D), NONE);
     }
 
     private static void fourth() {
@@ -330,16 +332,17 @@ public final class RefusedTest {
                 Scene s = withThird(scene);
                 for (long v : new long[] {Long.MIN_VALUE, LEAST, -1, Scene.P + 1, 2 * Scene.P,
                     1L << 32, (1L << 32) + 1, -1L << 32, Long.MAX_VALUE}) {
-                    s.refuses("11: v is " + v, x -> x.fourth(t[0], t[1], t[2], v), BAD);
+                    s.leavesAlways("11: v is " + v, x -> x.fourth(t[0], t[1], t[2], v), BAD);
                 }
-                s.refuses("11: BAD goes before NONE", x -> x.fourth(t[0], t[0], t[0], -1), BAD);
+                s.leavesAlways("11: BAD goes before NONE",
+                    x -> x.fourth(t[0], t[0], t[0], -1), BAD);
                 for (long v : new long[] {0, 1, 2, Scene.P - 1, Scene.P}) {
-                    s.refuses("11: a is b", x -> x.fourth(t[0], t[0], t[2], v), NONE);
-                    s.refuses("11: b is c", x -> x.fourth(t[0], t[1], t[1], v), NONE);
-                    s.refuses("11: a is c", x -> x.fourth(t[0], t[1], t[0], v), NONE);
-                    s.refuses("11: one alone", x -> x.fourth(t[2], t[2], t[2], v), NONE);
-                    s.refuses("11: RANK 3", x -> x.fourth(t[0], t[1], t[3], v), NONE);
-                    s.refuses("11: RANK 3", x -> x.fourth(t[3], t[1], t[2], v), NONE);
+                    s.leavesAlways("11: a is b", x -> x.fourth(t[0], t[0], t[2], v), NONE);
+                    s.leavesAlways("11: b is c", x -> x.fourth(t[0], t[1], t[1], v), NONE);
+                    s.leavesAlways("11: a is c", x -> x.fourth(t[0], t[1], t[0], v), NONE);
+                    s.leavesAlways("11: one alone", x -> x.fourth(t[2], t[2], t[2], v), NONE);
+                    s.leavesAlways("11: RANK 3", x -> x.fourth(t[0], t[1], t[3], v), NONE);
+                    s.leavesAlways("11: RANK 3", x -> x.fourth(t[3], t[1], t[2], v), NONE);
                 }
             }
         }
@@ -348,11 +351,11 @@ public final class RefusedTest {
     private static void pair() {
         for (Scene scene : BOTH) {
             Scene most = scene.then(x -> Scene.lastPair(x, scene.n));
-            most.refuses("12: there are n + 2", x -> x.pair(A, A), FULL);
-            most.refuses("12: there are n + 2", x -> x.pair(E, G), FULL);
-            most.refuses("12: BAD goes before FULL", x -> x.pair(A, U), BAD);
-            most.refuses("12: BAD goes before FULL", x -> x.pair(U, A), BAD);
-            most.refuses("12: BAD goes before FULL", x -> x.pair(A, 60), BAD);
+            most.leavesAlways("12: there are n + 2", x -> x.pair(A, A), FULL);
+            most.leavesAlways("12: there are n + 2", x -> x.pair(E, G), FULL);
+            most.leavesAlways("12: BAD goes before FULL", x -> x.pair(A, U), BAD);
+            most.leavesAlways("12: BAD goes before FULL", x -> x.pair(U, A), BAD);
+            most.leavesAlways("12: BAD goes before FULL", x -> x.pair(A, 60), BAD);
             most.leaves("12: told", x -> x.told(4), scene.n + 2);
             scene.full().answers("12: 60 OBJECTS do not matter", x -> x.pair(A, A), scene.n + 2);
         }
@@ -360,10 +363,10 @@ public final class RefusedTest {
 
     private static void map() {
         for (Scene scene : BOTH) {
-            scene.refuses("13: there are n + 1", x -> x.map(), NONE);
+            scene.leavesAlways("13: there are n + 1", x -> x.map(), NONE);
             Scene none = scene.without(Scene.PAIRED);
-            none.refuses("13: there is none", x -> x.map(), NONE);
-            none.then(x -> x.pair(A, A)).refuses("13: there is one", x -> x.map(), NONE);
+            none.leavesAlways("13: there is none", x -> x.map(), NONE);
+            none.then(x -> x.pair(A, A)).leavesAlways("13: there is one", x -> x.map(), NONE);
         }
         // Those on the line, or plane, are the first; the last is elsewhere.
         oneOutside(IN_PLANE, new int[] {A, B, G, E}, new int[] {A, B, C, D});
@@ -379,15 +382,15 @@ public final class RefusedTest {
             int[] turned = dependent.clone();
             turned[last] = dependent[k];
             turned[k] = dependent[last];
-            none.then(x -> pairs(x, turned, frame)).refuses(
+            none.then(x -> pairs(x, turned, frame)).leavesAlways(
                 "13: RANK of the first ones but for " + k, x -> x.map(), NONE);
-            none.then(x -> pairs(x, frame, turned)).refuses(
+            none.then(x -> pairs(x, frame, turned)).leavesAlways(
                 "13: RANK of the second ones but for " + k, x -> x.map(), NONE);
             int[] twice = frame.clone();
             twice[k] = frame[(k + 1) % frame.length];
-            none.then(x -> pairs(x, twice, frame)).refuses(
+            none.then(x -> pairs(x, twice, frame)).leavesAlways(
                 "13: the same first one at " + k, x -> x.map(), NONE);
-            none.then(x -> pairs(x, frame, twice)).refuses(
+            none.then(x -> pairs(x, frame, twice)).leavesAlways(
                 "13: the same second one at " + k, x -> x.map(), NONE);
         }
     }
@@ -403,7 +406,7 @@ public final class RefusedTest {
             // A map of order p - 1, times one of order p.
             scene.more(x -> x.row(MAP, scene.n == 2
                 ? new long[] {1, 1, 0, 0, 1, 0, 0, 0, 2}
-                : new long[] {1, 1, 0, 0, 0, 1, 0, 0, 0, 0, 1, 0, 0, 0, 0, 2})).refuses(
+                : new long[] {1, 1, 0, 0, 0, 1, 0, 0, 0, 0, 1, 0, 0, 0, 0, 2})).leavesAlways(
                 "17: not within 1000", x -> x.order(scene.next()), NONE);
         }
     }
@@ -415,10 +418,10 @@ public final class RefusedTest {
                     x.gather(E);
                 }
             });
-            most.refuses("18: there are 9", x -> x.gather(A), FULL);
-            most.refuses("18: there are 9", x -> x.gather(E), FULL);
-            most.refuses("18: BAD goes before FULL", x -> x.gather(U), BAD);
-            most.refuses("18: BAD goes before FULL", x -> x.gather(60), BAD);
+            most.leavesAlways("18: there are 9", x -> x.gather(A), FULL);
+            most.leavesAlways("18: there are 9", x -> x.gather(E), FULL);
+            most.leavesAlways("18: BAD goes before FULL", x -> x.gather(U), BAD);
+            most.leavesAlways("18: BAD goes before FULL", x -> x.gather(60), BAD);
             most.leaves("18: told", x -> x.told(3), 9);
             scene.full().then(x -> x.forget()).answers("18: 60 OBJECTS do not matter",
                 x -> x.gather(A), 1);
@@ -427,31 +430,32 @@ public final class RefusedTest {
 
     private static void quadric() {
         for (Scene scene : BOTH) {
-            scene.without(Scene.GATHERED).refuses("20: nothing is gathered", x -> x.quadric(), NONE);
-            scene.refuses("20: one less than it takes", x -> x.quadric(), NONE);
-            scene.then(x -> x.gather(A)).refuses("20: a POINT twice is no POINT more",
+            scene.without(Scene.GATHERED).leavesAlways("20: nothing is gathered",
+                x -> x.quadric(), NONE);
+            scene.leavesAlways("20: one less than it takes", x -> x.quadric(), NONE);
+            scene.then(x -> x.gather(A)).leavesAlways("20: a POINT twice is no POINT more",
                 x -> x.quadric(), NONE);
             scene.without(Scene.GATHERED).then(x -> {
                 for (int k = 0; k < 9; k++) {
                     x.gather(D);
                 }
-            }).refuses("20: one POINT, 9 times", x -> x.quadric(), NONE);
+            }).leavesAlways("20: one POINT, 9 times", x -> x.quadric(), NONE);
             scene.without(Scene.GATHERED).more(x -> onTheLine(x, scene.n)).then(x -> {
                 for (int k = 0; k < 9; k++) {
                     x.gather(scene.next() + k);
                 }
-            }).refuses("20: 9 of one LINE: more than one", x -> x.quadric(), NONE);
+            }).leavesAlways("20: 9 of one LINE: more than one", x -> x.quadric(), NONE);
         }
         IN_PLANE.without(Scene.GATHERED).more(x -> onTheLine(x, 2)).then(x -> {
             for (int k = 0; k < 4; k++) {
                 x.gather(IN_PLANE.next() + k);
             }
             x.gather(D);
-        }).refuses("20: five, four of one LINE: more than one", x -> x.quadric(), NONE);
+        }).leavesAlways("20: five, four of one LINE: more than one", x -> x.quadric(), NONE);
         IN_PLANE.more(x -> x.row(POINT, 1, 3, 4)).then(x -> {
             x.gather(E);
             x.gather(IN_PLANE.next());
-        }).refuses("20: six: there is none", x -> x.quadric(), NONE);
+        }).leavesAlways("20: six: there is none", x -> x.quadric(), NONE);
     }
 
     private static void onTheLine(Asked x, int n) {
@@ -465,20 +469,20 @@ public final class RefusedTest {
 
     private static void polar() {
         for (Scene scene : BOTH) {
-            scene.refuses("22: Q x is 0", x -> x.polar(R, C), NONE);
-            scene.refuses("22: of LINE, PLANE the RANK is n", x -> x.polar(R, W), NONE);
+            scene.leavesAlways("22: Q x is 0", x -> x.polar(R, C), NONE);
+            scene.leavesAlways("22: of LINE, PLANE the RANK is n", x -> x.polar(R, W), NONE);
             Scene one = scene.more(x -> {
                 x.hold(new long[16]);
                 x.put(0, 1);
                 x.make(QUADRIC);
             });
             int q = scene.next();
-            one.refuses("22: RANK 1, Q x is 0", x -> x.polar(q, B), NONE);
-            one.refuses("22: RANK 1, of LINE, PLANE", x -> x.polar(q, W), NONE);
+            one.leavesAlways("22: RANK 1, Q x is 0", x -> x.polar(q, B), NONE);
+            one.leavesAlways("22: RANK 1, of LINE, PLANE", x -> x.polar(q, W), NONE);
         }
-        IN_PLANE.more(x -> x.polar(R, D)).refuses("22: also of the polar of a POINT",
+        IN_PLANE.more(x -> x.polar(R, D)).leavesAlways("22: also of the polar of a POINT",
             x -> x.polar(R, IN_PLANE.next()), NONE);
-        IN_SPACE.more(x -> x.polar(R, E)).refuses("22: also of the polar of a POINT",
+        IN_SPACE.more(x -> x.polar(R, E)).leavesAlways("22: also of the polar of a POINT",
             x -> x.polar(R, IN_SPACE.next()), NONE);
     }
 
@@ -505,37 +509,37 @@ public final class RefusedTest {
                 int count = (int) counts[k];
                 s.leaves("23: how many", x -> x.touches(Q, line), count);
                 for (int none : new int[] {count, count + 1, Scene.P, Scene.P + 1, GREATEST}) {
-                    s.refuses("24: not so many: " + none, x -> x.common(Q, line, none), NONE);
+                    s.leavesAlways("24: not so many: " + none, x -> x.common(Q, line, none), NONE);
                 }
-                s.refuses("24: k below 0", x -> x.common(Q, line, -1), BAD);
-                s.refuses("24: k below 0", x -> x.common(Q, line, LEAST), BAD);
+                s.leavesAlways("24: k below 0", x -> x.common(Q, line, -1), BAD);
+                s.leavesAlways("24: k below 0", x -> x.common(Q, line, LEAST), BAD);
             }
             int q = scene.n == 2 ? scene.next() + 3 : Q;
             s.leaves("23: all", x -> x.touches(q, U), Scene.P + 1);
-            s.refuses("24: p + 1", x -> x.common(q, U, Scene.P + 1), NONE);
-            s.refuses("24: the greatest", x -> x.common(q, U, GREATEST), NONE);
-            s.refuses("24: k below 0", x -> x.common(q, U, -1), BAD);
-            s.refuses("24: k below 0", x -> x.common(q, U, LEAST), BAD);
+            s.leavesAlways("24: p + 1", x -> x.common(q, U, Scene.P + 1), NONE);
+            s.leavesAlways("24: the greatest", x -> x.common(q, U, GREATEST), NONE);
+            s.leavesAlways("24: k below 0", x -> x.common(q, U, -1), BAD);
+            s.leavesAlways("24: k below 0", x -> x.common(q, U, LEAST), BAD);
         }
     }
 
     private static void root() {
         for (Scene scene : BOTH) {
             for (long v : new long[] {2, 3, -2, 2 + Scene.P, 2 - Scene.P}) {
-                scene.refuses("25: there is none of " + v, x -> x.root(v), NONE);
+                scene.leavesAlways("25: there is none of " + v, x -> x.root(v), NONE);
             }
-            scene.refuses("25: asking changes nothing", x -> x.root(4), 2);
+            scene.leavesAlways("25: asking changes nothing", x -> x.root(4), 2);
         }
     }
 
     private static void dual() {
         for (Scene scene : BOTH) {
-            scene.refuses("26: the RANK is n", x -> x.dual(R), NONE);
+            scene.leavesAlways("26: the RANK is n", x -> x.dual(R), NONE);
             scene.more(x -> {
                 x.hold(new long[16]);
                 x.put(0, 1);
                 x.make(QUADRIC);
-            }).refuses("26: the RANK is 1", x -> x.dual(scene.next()), NONE);
+            }).leavesAlways("26: the RANK is 1", x -> x.dual(scene.next()), NONE);
         }
     }
 
@@ -544,69 +548,76 @@ public final class RefusedTest {
         int[][] inSpace = {{U, V}, {U, U}, {U, S}, {THROUGH_V, BESIDE_V}, {W, W}, {U, THROUGH_V},
             {BESIDE_V, V}};
         for (int[] two : inPlane) {
-            IN_PLANE.without(Scene.IDEAL).refuses("28: no IDEAL one", x -> x.parallel(two[0], two[1]), NONE);
+            IN_PLANE.without(Scene.IDEAL).leavesAlways("28: no IDEAL one",
+                x -> x.parallel(two[0], two[1]), NONE);
         }
         for (int[] two : inSpace) {
-            IN_SPACE.without(Scene.IDEAL).refuses("28: no IDEAL one", x -> x.parallel(two[0], two[1]), NONE);
+            IN_SPACE.without(Scene.IDEAL).leavesAlways("28: no IDEAL one",
+                x -> x.parallel(two[0], two[1]), NONE);
         }
         int[][] idealInPlane = {{W, U}, {U, W}, {W, W}};
         for (int[] two : idealInPlane) {
-            IN_PLANE.refuses("28: one is", x -> x.parallel(two[0], two[1]), NONE);
+            IN_PLANE.leavesAlways("28: one is", x -> x.parallel(two[0], two[1]), NONE);
         }
         int[][] idealInSpace = {{W, THROUGH_V}, {THROUGH_V, W}, {W, W}, {W, U}, {U, W}};
         for (int[] two : idealInSpace) {
-            IN_SPACE.refuses("28: one is", x -> x.parallel(two[0], two[1]), NONE);
+            IN_SPACE.leavesAlways("28: one is", x -> x.parallel(two[0], two[1]), NONE);
         }
         Scene through = IN_SPACE.then(x -> x.ideal(THROUGH_V));
         int[][] onIt = {{U, V}, {V, U}, {U, U}, {U, S}, {S, U}, {U, BESIDE_V}, {BESIDE_V, U},
             {V, W}, {W, V}, {U, THROUGH_V}, {THROUGH_V, U}};
         for (int[] two : onIt) {
-            through.refuses("28: one is ON it", x -> x.parallel(two[0], two[1]), NONE);
+            through.leavesAlways("28: one is ON it", x -> x.parallel(two[0], two[1]), NONE);
         }
         for (Scene scene : BOTH) {
-            scene.without(Scene.IDEAL).refuses("28: BAD goes before NONE", x -> x.parallel(A, W), BAD);
-            scene.refuses("28: BAD goes before NONE", x -> x.parallel(W, A), BAD);
-            scene.refuses("28: the same ones", x -> x.parallel(U, U), 1);
-            scene.refuses("28: asking makes nothing", x -> x.parallel(U, V), 0);
+            scene.without(Scene.IDEAL).leavesAlways("28: BAD goes before NONE",
+                x -> x.parallel(A, W), BAD);
+            scene.leavesAlways("28: BAD goes before NONE", x -> x.parallel(W, A), BAD);
+            scene.leavesAlways("28: the same ones", x -> x.parallel(U, U), 1);
+            scene.leavesAlways("28: asking makes nothing", x -> x.parallel(U, V), 0);
         }
-        IN_SPACE.refuses("28: the same PLANES", x -> x.parallel(BESIDE_V, BESIDE_V), 1);
-        IN_SPACE.refuses("28: a LINE ON the PLANE", x -> x.parallel(U, THROUGH_V), 1);
-        IN_SPACE.refuses("28: a LINE ON the PLANE", x -> x.parallel(THROUGH_V, V), 1);
-        IN_SPACE.refuses("28: not ON one another", x -> x.parallel(U, S), 0);
-        IN_SPACE.refuses("28: not ON one another", x -> x.parallel(S, U), 0);
+        IN_SPACE.leavesAlways("28: the same PLANES", x -> x.parallel(BESIDE_V, BESIDE_V), 1);
+        IN_SPACE.leavesAlways("28: a LINE ON the PLANE", x -> x.parallel(U, THROUGH_V), 1);
+        IN_SPACE.leavesAlways("28: a LINE ON the PLANE", x -> x.parallel(THROUGH_V, V), 1);
+        IN_SPACE.leavesAlways("28: not ON one another", x -> x.parallel(U, S), 0);
+        IN_SPACE.leavesAlways("28: not ON one another", x -> x.parallel(S, U), 0);
     }
 
     private static void middle() {
         for (Scene scene : BOTH) {
-            scene.refuses("29: the same", x -> x.middle(D, D), NONE);
-            scene.without(Scene.IDEAL).refuses("29: there is no IDEAL one", x -> x.middle(A, B), NONE);
-            scene.without(Scene.IDEAL).refuses("29: BAD goes before NONE", x -> x.middle(A, U), BAD);
-            scene.without(Scene.IDEAL).refuses("29: BAD goes before NONE", x -> x.middle(60, A), BAD);
+            scene.leavesAlways("29: the same", x -> x.middle(D, D), NONE);
+            scene.without(Scene.IDEAL).leavesAlways("29: there is no IDEAL one",
+                x -> x.middle(A, B), NONE);
+            scene.without(Scene.IDEAL).leavesAlways("29: BAD goes before NONE",
+                x -> x.middle(A, U), BAD);
+            scene.without(Scene.IDEAL).leavesAlways("29: BAD goes before NONE",
+                x -> x.middle(60, A), BAD);
             Scene far = scene.then(x -> x.ideal(scene.n == 2 ? U : THROUGH_V));
-            far.refuses("29: a is ON THE IDEAL", x -> x.middle(A, D), NONE);
-            far.refuses("29: b is ON THE IDEAL", x -> x.middle(D, A), NONE);
-            far.refuses("29: both are", x -> x.middle(A, B), NONE);
-            far.refuses("29: the same, ON THE IDEAL", x -> x.middle(A, A), NONE);
+            far.leavesAlways("29: a is ON THE IDEAL", x -> x.middle(A, D), NONE);
+            far.leavesAlways("29: b is ON THE IDEAL", x -> x.middle(D, A), NONE);
+            far.leavesAlways("29: both are", x -> x.middle(A, B), NONE);
+            far.leavesAlways("29: the same, ON THE IDEAL", x -> x.middle(A, A), NONE);
         }
     }
 
     private static void holdsIsBad() {
         for (int theorem : new int[] {LEAST, -2, -1, 3, 4, GREATEST}) {
-            IN_PLANE.refuses("30: theorem " + theorem, x -> x.holds(theorem), BAD);
-            IN_PLANE.without(Scene.GATHERED).refuses("30: theorem " + theorem, x -> x.holds(theorem), BAD);
-            IN_SPACE.refuses("30: theorem " + theorem, x -> x.holds(theorem), BAD);
-            withSix(PAPPUS).refuses("30: theorem " + theorem, x -> x.holds(theorem), BAD);
+            IN_PLANE.leavesAlways("30: theorem " + theorem, x -> x.holds(theorem), BAD);
+            IN_PLANE.without(Scene.GATHERED).leavesAlways("30: theorem " + theorem,
+                x -> x.holds(theorem), BAD);
+            IN_SPACE.leavesAlways("30: theorem " + theorem, x -> x.holds(theorem), BAD);
+            withSix(PAPPUS).leavesAlways("30: theorem " + theorem, x -> x.holds(theorem), BAD);
         }
         for (int theorem = 0; theorem <= 2; theorem++) {
             int asked = theorem;
-            IN_SPACE.refuses("30: in space", x -> x.holds(asked), BAD);
+            IN_SPACE.leavesAlways("30: in space", x -> x.holds(asked), BAD);
             Scene none = IN_SPACE.without(Scene.GATHERED);
-            none.refuses("30: in space", x -> x.holds(asked), BAD);
+            none.leavesAlways("30: in space", x -> x.holds(asked), BAD);
             none.then(x -> {
                 for (int a : new int[] {A, B, G, C, H, D}) {
                     x.gather(a);
                 }
-            }).refuses("30: six in space", x -> x.holds(asked), BAD);
+            }).leavesAlways("30: six in space", x -> x.holds(asked), BAD);
         }
     }
 
@@ -632,11 +643,13 @@ public final class RefusedTest {
             for (long[] point : points) {
                 x.gather(x.row(POINT, point));
             }
+            Scene.holdMap(x, 2);
         });
     }
 
     private static void theorem(String what, int theorem, long[][] points, int want) {
-        withSix(points).refuses("30: theorem " + theorem + ": " + what, x -> x.holds(theorem), want);
+        withSix(points).leavesAlways("30: theorem " + theorem + ": " + what,
+            x -> x.holds(theorem), want);
     }
 
     /** The same points, but for some places. */
@@ -735,9 +748,10 @@ public final class RefusedTest {
     private static void told() {
         for (Scene scene : BOTH) {
             for (int what : new int[] {LEAST, -2, -1, 6, 7, GREATEST}) {
-                scene.refuses("31: told(" + what + ")", x -> x.told(what), BAD);
+                scene.leavesAlways("31: told(" + what + ")", x -> x.told(what), BAD);
             }
-            scene.without(Scene.IDEAL).refuses("31: there is no IDEAL one", x -> x.told(5), NONE);
+            scene.without(Scene.IDEAL).leavesAlways("31: there is no IDEAL one",
+                x -> x.told(5), NONE);
         }
     }
 }

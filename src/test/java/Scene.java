@@ -97,9 +97,14 @@ final class Scene {
         more.forEach(step -> step.accept(x));
         lead(x);
         fill(x);
-        x.hold(n == 2 ? PLANE_MAP : SPACE_MAP);
+        holdMap(x, n);
         later.forEach(step -> step.accept(x));
         return x;
+    }
+
+    /** Puts the row of M in hand. */
+    static void holdMap(Asked x, int n) {
+        x.hold(n == 2 ? PLANE_MAP : SPACE_MAP);
     }
 
     private static void planeObjects(Asked x) {
@@ -177,7 +182,8 @@ final class Scene {
     }
 
     private String name(String what) {
-        return what + (n == 2 ? ", in the plane" : ", in space") + (objects == 0 ? "" : ", filled up");
+        String where = n == 2 ? ", in the plane" : ", in space";
+        return what + where + (objects == 0 ? "" : ", filled up");
     }
 
     /** Asks for a call's answer. */
@@ -194,20 +200,20 @@ final class Scene {
     }
 
     /** The same here, and where there is no room for an object more. */
-    void refuses(String what, ToLongFunction<Asked> call, long want) {
+    void leavesAlways(String what, ToLongFunction<Asked> call, long want) {
         leaves(what, call, want);
         full().leaves(what, call, want);
     }
 
-    /** What can be seen of an object: what is in hand, what is told, what calls make of the rest. */
+    /** What can be seen of an object: the hand, what is told, what calls make of the rest. */
     static long[] all(Asked x, int n) {
         List<Long> seen = new ArrayList<>();
         // The hand first: it is seen where it holds the row of an object that is there.
         seen.add((long) x.make(MAP));
-        seen.add((long) x.make(QUADRIC));
         for (int what = 0; what <= 5; what++) {
             seen.add((long) x.told(what));
         }
+        seen.add((long) x.make(QUADRIC));
         // The objects between are those that fill the scene up, and calls are few.
         int named = n == 2 ? N + 1 : BESIDE_V + 1;
         for (int a = 0; a < named; a++) {
