@@ -33,16 +33,22 @@ public final class FaceTest {
         Check.due("FULL", ProjectiveRows.FULL, -3);
         methods();
         fieldsAndConstructors();
+        classesInside();
         text();
         Check.end("FaceTest");
     }
 
-    private static void methods() {
-        Set<String> due = new TreeSet<>(Set.of(FACE));
+    private static Set<String> namesOfFace() {
         Set<String> names = new HashSet<>();
         for (String one : FACE) {
             names.add(one.substring(one.indexOf(' ') + 1, one.indexOf('(')));
         }
+        return names;
+    }
+
+    private static void methods() {
+        Set<String> due = new TreeSet<>(Set.of(FACE));
+        Set<String> names = namesOfFace();
         Set<String> got = new TreeSet<>();
         for (Method m : ProjectiveRows.class.getDeclaredMethods()) {
             if (Modifier.isPrivate(m.getModifiers())) {
@@ -84,8 +90,45 @@ public final class FaceTest {
         Constructor<?>[] made = ProjectiveRows.class.getDeclaredConstructors();
         Check.due("one constructor", made.length, 1);
         Check.due("public constructor", Modifier.isPublic(made[0].getModifiers()));
-        for (Class<?> inside : ProjectiveRows.class.getDeclaredClasses()) {
-            Check.due(inside.getName() + " is static", Modifier.isStatic(inside.getModifiers()));
+    }
+
+    private static void classesInside() {
+        Set<String> face = namesOfFace();
+        Class<?>[] all = ProjectiveRows.class.getDeclaredClasses();
+        Check.due("twelve classes at most", all.length < 12);
+        for (Class<?> inside : all) {
+            String name = inside.getSimpleName();
+            Check.due(name + " is static", Modifier.isStatic(inside.getModifiers()));
+            Check.due(name + " is not public", (inside.getModifiers()
+                & (Modifier.PUBLIC | Modifier.PROTECTED)) == 0);
+            Check.due(name + " has no class inside", inside.getDeclaredClasses().length, 0);
+            Check.due(name + " has twenty fields at most", inside.getDeclaredFields().length <= 20);
+            for (Field f : inside.getDeclaredFields()) {
+                Check.due(name + "." + f.getName() + " is of the object",
+                    !Modifier.isStatic(f.getModifiers()));
+            }
+            for (Method m : inside.getDeclaredMethods()) {
+                Check.due(name + "." + m.getName() + " has a name of its own",
+                    !face.contains(m.getName()));
+                Check.due(name + "." + m.getName() + ": seven parameters at most",
+                    m.getParameterCount() <= 7);
+            }
+        }
+    }
+
+    /** By the braces of a text that is indented by four. */
+    private static void methodsAreShort(String text) {
+        String[] lines = text.split("\n");
+        for (int k = 0; k < lines.length; k++) {
+            Matcher head = Pattern.compile("( {4}| {8})\\w.*\\) \\{").matcher(lines[k]);
+            if (!head.matches()) {
+                continue;
+            }
+            int end = k;
+            while (end < lines.length && !lines[end].equals(head.group(1) + "}")) {
+                end++;
+            }
+            Check.due("some sixty lines at most: " + lines[k].trim(), end - k <= 60);
         }
     }
 
@@ -98,6 +141,7 @@ public final class FaceTest {
                 + (isWord ? "\\b" : "")).matcher(code);
             Check.due("the code is without '" + word + "'", !found.find());
         }
+        methodsAreShort(text);
         Check.due("no package", !Pattern.compile("(?m)^package").matcher(code).find());
     }
 }

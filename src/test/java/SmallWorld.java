@@ -17,6 +17,9 @@ final class SmallWorld {
     final List<Map<String, BitSet>> sets = new ArrayList<>();
     final List<List<long[]>> rows = new ArrayList<>();
     private final Map<String, Integer> pointIndex = new HashMap<>();
+    /** All quadrics, once they are asked for, and the sets of their points. */
+    private final List<long[]> quadrics = new ArrayList<>();
+    private final List<BitSet> quadricSets = new ArrayList<>();
 
     SmallWorld(int n, int p) {
         this.n = n;
@@ -335,5 +338,231 @@ final class SmallWorld {
             i++;
         }
         return i;
+    }
+
+    static BitSet shared(BitSet a, BitSet b) {
+        BitSet both = (BitSet) a.clone();
+        both.and(b);
+        return both;
+    }
+
+    static BitSet united(BitSet a, BitSet b) {
+        BitSet either = (BitSet) a.clone();
+        either.or(b);
+        return either;
+    }
+
+    static boolean isWithin(BitSet inside, BitSet outside) {
+        BitSet rest = (BitSet) inside.clone();
+        rest.andNot(outside);
+        return rest.isEmpty();
+    }
+
+    int isParallel(int sortA, long[] rowA, int sortB, long[] rowB, BitSet far) {
+        BitSet a = setOf(sortA, rowA);
+        BitSet b = setOf(sortB, rowB);
+        if (isWithin(a, far) || isWithin(b, far)) {
+            return Check.NONE;
+        }
+        if (isWithin(a, b) || isWithin(b, a)) {
+            return 1;
+        }
+        BitSet both = shared(a, b);
+        return !both.isEmpty() && isWithin(both, far) ? 1 : 0;
+    }
+
+    /** The point that has the cross ratio p - 1 with two and their line's far one; or null. */
+    long[] middle(long[] x, long[] y, long[] far) {
+        if (key(x).equals(key(y)) || dot(x, far) == 0 || dot(y, far) == 0) {
+            return null;
+        }
+        long[] at = null;
+        List<long[]> line = inOrder(lineOf(x, y));
+        for (long[] z : line) {
+            at = dot(z, far) == 0 ? z : at;
+        }
+        long[] found = null;
+        for (long[] z : line) {
+            found = crossRatio(x, y, at, z) == p - 1 ? z : found;
+        }
+        return found;
+    }
+
+    /** The row with this cross ratio; null if the three are not all different, or of rank 2. */
+    long[] fourth(int sort, long[] a, long[] b, long[] c, long v) {
+        if (key(a).equals(key(b)) || key(b).equals(key(c)) || key(a).equals(key(c))) {
+            return null;
+        }
+        long[] found = null;
+        for (long[] y : rows.get(sort)) {
+            found = crossRatio(a, b, c, y) == v ? y : found;
+        }
+        return found;
+    }
+
+    /** The point whose polar a flat is; null if the quadric's rank is below n + 1. */
+    long[] pole(long[] square, long[] flat) {
+        long[] found = null;
+        for (long[] z : points) {
+            if (key(normal(image(square, z))).equals(key(flat))) {
+                found = z;
+            }
+        }
+        return rankOfSquare(square) == width ? found : null;
+    }
+
+    /** The line that is on all planes with the rows of a line's points. */
+    long[] dualOfLine(long[] line) {
+        BitSet shared = new BitSet();
+        shared.set(0, points.size());
+        for (long[] y : inOrder(setOf(Check.LINE, line))) {
+            shared.and(setOf(Check.PLANE, normal(y)));
+        }
+        return onlyAround(Check.LINE, shared);
+    }
+
+    /** The points of a line that are on a quadric, in the line's order. */
+    List<long[]> common(long[] square, long[] line) {
+        List<long[]> found = new ArrayList<>();
+        for (long[] y : inOrder(setOf(Check.LINE, line))) {
+            if (form(square, y, y) == 0) {
+                found.add(y);
+            }
+        }
+        return found;
+    }
+
+    /** The only quadric with all these points, looked for among all; null if not just one. */
+    long[] quadricOn(BitSet inside) {
+        if (quadrics.isEmpty()) {
+            allQuadrics();
+        }
+        long[] found = null;
+        for (int i = 0; i < quadrics.size(); i++) {
+            if (isWithin(inside, quadricSets.get(i))) {
+                if (found != null) {
+                    return null;
+                }
+                found = quadrics.get(i);
+            }
+        }
+        return found;
+    }
+
+    private void allQuadrics() {
+        int codes = 1;
+        for (int k = 0; k < width * (width + 1) / 2; k++) {
+            codes *= p;
+        }
+        for (int code = 1; code < codes; code++) {
+            long[] square = new long[width * width];
+            int left = code;
+            for (int i = 0; i < width; i++) {
+                for (int j = i; j < width; j++) {
+                    square[i * width + j] = left % p;
+                    square[j * width + i] = left % p;
+                    left /= p;
+                }
+            }
+            if (key(square).equals(key(normal(square)))) {
+                quadrics.add(square);
+                quadricSets.add(setOfQuadric(square));
+            }
+        }
+    }
+
+    BitSet lineOf(long[] x, long[] y) {
+        BitSet two = new BitSet();
+        two.set(indexOf(x));
+        two.set(indexOf(y));
+        long[] line = onlyAround(Check.LINE, two);
+        return line == null ? null : setOf(Check.LINE, line);
+    }
+
+    int orderOf(long[] square) {
+        int[] to = new int[points.size()];
+        int[] now = new int[to.length];
+        for (int k = 0; k < to.length; k++) {
+            to[k] = indexOf(image(square, points.get(k)));
+            now[k] = k;
+        }
+        for (int times = 1; times <= 1000; times++) {
+            boolean back = true;
+            for (int k = 0; k < to.length; k++) {
+                now[k] = to[now[k]];
+                back &= now[k] == k;
+            }
+            if (back) {
+                return times;
+            }
+        }
+        return Check.NONE;
+    }
+
+    boolean isFrame(long[][] points) {
+        for (int without = 0; without < points.length; without++) {
+            long[][] rest = new long[points.length - 1][];
+            for (int i = 0; i < rest.length; i++) {
+                rest[i] = points[i < without ? i : i + 1];
+            }
+            if (rankOf(rest) != width) {
+                return false;
+            }
+        }
+        return true;
+    }
+
+    int holds(int theorem, long[][] six) {
+        if (theorem == 0 && (rankOf(six[0], six[2], six[4]) == 3
+            || rankOf(six[1], six[3], six[5]) == 3)) {
+            return Check.NONE;
+        }
+        if (theorem == 1 && !areThroughOnePoint(six)) {
+            return Check.NONE;
+        }
+        if (theorem == 2 && !areOnAQuadric(six)) {
+            return Check.NONE;
+        }
+        int[][] sides = theorem == 1
+            ? new int[][] {{0, 1, 3, 4}, {1, 2, 4, 5}, {2, 0, 5, 3}}
+            : new int[][] {{0, 1, 3, 4}, {1, 2, 4, 5}, {2, 3, 5, 0}};
+        long[][] met = new long[3][];
+        for (int k = 0; k < 3; k++) {
+            BitSet one = lineOf(six[sides[k][0]], six[sides[k][1]]);
+            BitSet other = lineOf(six[sides[k][2]], six[sides[k][3]]);
+            if (one == null || other == null) {
+                return Check.NONE;
+            }
+            met[k] = onlyWithin(Check.POINT, shared(one, other));
+            if (met[k] == null) {
+                return Check.NONE;
+            }
+        }
+        return rankOf(met) < 3 ? 1 : 0;
+    }
+
+    private boolean areThroughOnePoint(long[][] six) {
+        BitSet shared = new BitSet();
+        shared.set(0, points.size());
+        for (int i = 0; i < 3; i++) {
+            BitSet line = lineOf(six[i], six[i + 3]);
+            if (line == null) {
+                return false;
+            }
+            shared.and(line);
+        }
+        return !shared.isEmpty();
+    }
+
+    private boolean areOnAQuadric(long[][] six) {
+        long[][] conditions = new long[6][];
+        for (int i = 0; i < 6; i++) {
+            long a = six[i][0];
+            long b = six[i][1];
+            long c = six[i][2];
+            conditions[i] = new long[] {a * a % p, b * b % p, c * c % p, a * b % p, a * c % p,
+                b * c % p};
+        }
+        return rankOf(conditions) < 6;
     }
 }

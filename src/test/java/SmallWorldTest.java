@@ -9,12 +9,12 @@ public final class SmallWorldTest {
 
     private final SmallWorld world;
     private final String name;
-    private long seed;
+    private final Chance chance;
 
     private SmallWorldTest(int n, int p) {
         world = new SmallWorld(n, p);
         name = "n " + n + ", p " + p + ": ";
-        seed = 1000L * n + p;
+        chance = new Chance(world, 1000L * n + p);
     }
 
     public static void main(String[] args) {
@@ -41,17 +41,6 @@ public final class SmallWorldTest {
         new SmallWorldTest(2, 5).theorems(3000);
         new SmallWorldTest(2, 7).theorems(300);
         Check.end("SmallWorldTest");
-    }
-
-    /** A number below the bound, the same ones in each run. */
-    private int any(int bound) {
-        seed = seed * 6364136223846793005L + 1442695040888963407L;
-        return (int) ((seed >>> 33) % bound);
-    }
-
-    private long[] anyRow(int sort) {
-        List<long[]> all = world.rows.get(sort);
-        return all.get(any(all.size()));
     }
 
     private ProjectiveRows begun() {
@@ -95,8 +84,8 @@ public final class SmallWorldTest {
         int all = sortsAndPlaces.size();
         boolean each = all * all <= 50000;
         for (int k = 0; k < (each ? all * all : 6000); k++) {
-            int[] a = sortsAndPlaces.get(each ? k / all : any(all));
-            int[] b = sortsAndPlaces.get(each ? k % all : any(all));
+            int[] a = sortsAndPlaces.get(each ? k / all : chance.any(all));
+            int[] b = sortsAndPlaces.get(each ? k % all : chance.any(all));
             ask(a[0], world.rows.get(a[0]).get(a[1]), b[0], world.rows.get(b[0]).get(b[1]));
         }
     }
@@ -107,10 +96,8 @@ public final class SmallWorldTest {
         int b = Check.make(x, sortB, rowB);
         BitSet setA = world.setOf(sortA, rowA);
         BitSet setB = world.setOf(sortB, rowB);
-        BitSet both = (BitSet) setA.clone();
-        both.and(setB);
-        BitSet either = (BitSet) setA.clone();
-        either.or(setB);
+        BitSet both = SmallWorld.shared(setA, setB);
+        BitSet either = SmallWorld.united(setA, setB);
         String what = "(" + sortA + SmallWorld.key(rowA) + ", " + sortB + SmallWorld.key(rowB) + ")";
         int low = Math.min(sortA, sortB);
         int high = Math.max(sortA, sortB);
@@ -144,144 +131,61 @@ public final class SmallWorldTest {
     private void parallels() {
         for (int k = 0; k < 4000; k++) {
             ProjectiveRows x = begun();
-            int sortA = 1 + any(world.n - 1);
-            int sortB = 1 + any(world.n - 1);
-            long[] rowA = anyRow(sortA);
-            long[] rowB = k % 10 == 0 && sortA == sortB ? rowA : anyRow(sortB);
-            long[] far = anyRow(world.n - 1);
+            int sortA = 1 + chance.any(world.n - 1);
+            int sortB = 1 + chance.any(world.n - 1);
+            long[] rowA = chance.row(sortA);
+            long[] rowB = k % 10 == 0 && sortA == sortB ? rowA : chance.row(sortB);
+            long[] far = chance.row(world.n - 1);
             int a = Check.make(x, sortA, rowA);
             int b = Check.make(x, sortB, rowB);
             x.ideal(Check.make(x, world.n - 1, far));
-            due("parallel", x.parallel(a, b), isParallel(sortA, rowA, sortB, rowB,
+            due("parallel", x.parallel(a, b), world.isParallel(sortA, rowA, sortB, rowB,
                 world.setOf(world.n - 1, far)));
         }
-    }
-
-    private static boolean isWithin(BitSet inside, BitSet outside) {
-        BitSet rest = (BitSet) inside.clone();
-        rest.andNot(outside);
-        return rest.isEmpty();
-    }
-
-    private int isParallel(int sortA, long[] rowA, int sortB, long[] rowB, BitSet far) {
-        BitSet a = world.setOf(sortA, rowA);
-        BitSet b = world.setOf(sortB, rowB);
-        if (isWithin(a, far) || isWithin(b, far)) {
-            return NONE;
-        }
-        if (isWithin(a, b) || isWithin(b, a)) {
-            return 1;
-        }
-        BitSet both = (BitSet) a.clone();
-        both.and(b);
-        return !both.isEmpty() && isWithin(both, far) ? 1 : 0;
     }
 
     private void middles() {
         for (int k = 0; k < 1500; k++) {
             ProjectiveRows x = begun();
-            long[] rowA = anyRow(POINT);
-            long[] rowB = anyRow(POINT);
-            long[] far = anyRow(world.n - 1);
+            long[] rowA = chance.row(POINT);
+            long[] rowB = chance.row(POINT);
+            long[] far = chance.row(world.n - 1);
             int a = Check.make(x, POINT, rowA);
             int b = Check.make(x, POINT, rowB);
             x.ideal(Check.make(x, world.n - 1, far));
-            long[] want = null;
-            if (a != b && world.dot(rowA, far) != 0 && world.dot(rowB, far) != 0) {
-                long[] at = null;
-                List<long[]> line = world.inOrder(lineOf(rowA, rowB));
-                for (long[] y : line) {
-                    at = world.dot(y, far) == 0 ? y : at;
-                }
-                for (long[] y : line) {
-                    want = world.crossRatio(rowA, rowB, at, y) == world.p - 1 ? y : want;
-                }
-            }
-            dueRow(x, "middle", x.middle(a, b), POINT, want);
+            dueRow(x, "middle", x.middle(a, b), POINT, world.middle(rowA, rowB, far));
         }
-    }
-
-    private BitSet lineOf(long[] x, long[] y) {
-        BitSet two = new BitSet();
-        two.set(world.indexOf(x));
-        two.set(world.indexOf(y));
-        long[] line = world.onlyAround(LINE, two);
-        return line == null ? null : world.setOf(LINE, line);
-    }
-
-    /** A row that is, mostly, among what two others span. */
-    private long[] near(long[] x, long[] y, int sort) {
-        int way = any(12);
-        if (way == 0) {
-            return anyRow(sort);
-        }
-        if (way <= 2) {
-            return way == 1 ? x : y;
-        }
-        long[] sum = world.plus(x, any(world.p), y);
-        return world.isZero(sum) ? x : world.normal(sum);
     }
 
     private void ratios() {
         for (int k = 0; k < 2500; k++) {
             ProjectiveRows x = begun();
-            int sort = any(2) == 0 ? POINT : world.n - 1;
-            long[] a = anyRow(sort);
-            long[] b = any(9) == 0 ? a : anyRow(sort);
-            long[] c = near(a, b, sort);
-            long[] d = near(a, b, sort);
+            int sort = chance.any(2) == 0 ? POINT : world.n - 1;
+            long[] a = chance.row(sort);
+            long[] b = chance.any(9) == 0 ? a : chance.row(sort);
+            long[] c = chance.near(a, b, sort);
+            long[] d = chance.near(a, b, sort);
             int[] made = {Check.make(x, sort, a), Check.make(x, sort, b), Check.make(x, sort, c),
                 Check.make(x, sort, d)};
             due("cross", x.cross(made[0], made[1], made[2], made[3]), world.crossRatio(a, b, c, d));
-            int v = any(world.p + 1);
-            long[] want = null;
-            if (made[0] != made[1] && made[1] != made[2] && made[0] != made[2]) {
-                for (long[] y : world.rows.get(sort)) {
-                    want = world.crossRatio(a, b, c, y) == v ? y : want;
-                }
-            }
-            dueRow(x, "fourth", x.fourth(made[0], made[1], made[2], v), sort, want);
+            int v = chance.any(world.p + 1);
+            dueRow(x, "fourth", x.fourth(made[0], made[1], made[2], v), sort,
+                world.fourth(sort, a, b, c, v));
         }
-    }
-
-    private long[] anyMap() {
-        long[] square = new long[world.width * world.width];
-        do {
-            boolean sparse = any(2) == 0;
-            for (int i = 0; i < square.length; i++) {
-                square[i] = sparse && any(3) != 0 ? 0 : any(world.p);
-            }
-        } while (world.rankOfSquare(square) != world.width);
-        return square;
-    }
-
-    private long[] anyQuadric() {
-        long[] square = new long[world.width * world.width];
-        do {
-            boolean sparse = any(2) == 0;
-            for (int i = 0; i < world.width; i++) {
-                for (int j = i; j < world.width; j++) {
-                    long v = sparse && any(3) != 0 ? 0 : any(world.p);
-                    square[i * world.width + j] = v;
-                    square[j * world.width + i] = v;
-                }
-            }
-        } while (world.isZero(square));
-        return square;
     }
 
     private void maps() {
         for (int k = 0; k < 300; k++) {
             ProjectiveRows x = begun();
-            long[] square = anyMap();
+            long[] square = chance.map();
             int m = Check.make(x, MAP, square);
             for (int sort = 0; sort < world.n; sort++) {
-                long[] row = anyRow(sort);
+                long[] row = chance.row(sort);
                 BitSet set = world.imageOfSet(square, world.setOf(sort, row));
                 dueRow(x, "apply", x.apply(m, Check.make(x, sort, row)), sort,
                     world.onlyAround(sort, set));
             }
-            long[] quadric = anyQuadric();
+            long[] quadric = chance.quadric();
             int size = world.width * world.width;
             long[] moved = rowOf(x, x.apply(m, Check.make(x, QUADRIC, quadric)), size);
             for (long[] y : world.points) {
@@ -291,7 +195,7 @@ public final class SmallWorldTest {
             }
             sameRank(quadric, moved);
             mapsOfMaps(x, m, square);
-            due("order", x.order(m), orderOf(square));
+            due("order", x.order(m), world.orderOf(square));
         }
     }
 
@@ -301,7 +205,7 @@ public final class SmallWorldTest {
 
     private void mapsOfMaps(ProjectiveRows x, int m, long[] square) {
         int size = world.width * world.width;
-        long[] other = anyMap();
+        long[] other = chance.map();
         int h = Check.make(x, MAP, other);
         long[] both = rowOf(x, x.compose(m, h), size);
         long[] back = rowOf(x, x.inverse(m), size);
@@ -316,26 +220,6 @@ public final class SmallWorldTest {
         }
     }
 
-    private int orderOf(long[] square) {
-        int[] to = new int[world.points.size()];
-        int[] now = new int[to.length];
-        for (int k = 0; k < to.length; k++) {
-            to[k] = world.indexOf(world.image(square, world.points.get(k)));
-            now[k] = k;
-        }
-        for (int times = 1; times <= 1000; times++) {
-            boolean back = true;
-            for (int k = 0; k < to.length; k++) {
-                now[k] = to[now[k]];
-                back &= now[k] == k;
-            }
-            if (back) {
-                return times;
-            }
-        }
-        return NONE;
-    }
-
     private void mapsByPoints() {
         for (int k = 0; k < 1500; k++) {
             ProjectiveRows x = begun();
@@ -343,12 +227,12 @@ public final class SmallWorldTest {
             long[][] from = new long[count][];
             long[][] to = new long[count][];
             for (int i = 0; i < count; i++) {
-                from[i] = anyRow(POINT);
-                to[i] = anyRow(POINT);
+                from[i] = chance.row(POINT);
+                to[i] = chance.row(POINT);
                 x.pair(Check.make(x, POINT, from[i]), Check.make(x, POINT, to[i]));
             }
             int m = x.map();
-            if (!isFrame(from) || !isFrame(to)) {
+            if (!world.isFrame(from) || !world.isFrame(to)) {
                 due("map", m, NONE);
                 due("pairs stay", x.told(4), count);
                 continue;
@@ -361,40 +245,20 @@ public final class SmallWorldTest {
         }
     }
 
-    private boolean isFrame(long[][] points) {
-        for (int without = 0; without < points.length; without++) {
-            long[][] rest = new long[points.length - 1][];
-            for (int i = 0; i < rest.length; i++) {
-                rest[i] = points[i < without ? i : i + 1];
-            }
-            if (world.rankOf(rest) != world.width) {
-                return false;
-            }
-        }
-        return true;
-    }
-
     private void quadrics() {
         for (int k = 0; k < 300; k++) {
             ProjectiveRows x = begun();
-            long[] square = anyQuadric();
+            long[] square = chance.quadric();
             int q = Check.make(x, QUADRIC, square);
-            int rank = world.rankOfSquare(square);
-            due("rank", x.rank(q), rank);
-            long[] y = anyRow(POINT);
+            due("rank", x.rank(q), world.rankOfSquare(square));
+            long[] y = chance.row(POINT);
             int a = Check.make(x, POINT, y);
             due("on a quadric", x.on(q, a), world.form(square, y, y) == 0 ? 1 : 0);
             long[] image = world.image(square, y);
             dueRow(x, "polar", x.polar(q, a), world.n - 1, world.isZero(image) ? null : image);
-            long[] u = anyRow(world.n - 1);
-            long[] pole = null;
-            for (long[] z : world.points) {
-                long[] flat = world.image(square, z);
-                if (rank == world.width && SmallWorld.key(world.normal(flat)).equals(SmallWorld.key(u))) {
-                    pole = z;
-                }
-            }
-            dueRow(x, "polar of a flat", x.polar(q, Check.make(x, world.n - 1, u)), POINT, pole);
+            long[] u = chance.row(world.n - 1);
+            dueRow(x, "polar of a flat", x.polar(q, Check.make(x, world.n - 1, u)), POINT,
+                world.pole(square, u));
             for (int i = 0; i < 3; i++) {
                 lineAndQuadric(x, q, square);
             }
@@ -402,14 +266,9 @@ public final class SmallWorldTest {
     }
 
     private void lineAndQuadric(ProjectiveRows x, int q, long[] square) {
-        long[] row = anyRow(LINE);
+        long[] row = chance.row(LINE);
         int line = Check.make(x, LINE, row);
-        List<long[]> shared = new ArrayList<>();
-        for (long[] y : world.inOrder(world.setOf(LINE, row))) {
-            if (world.form(square, y, y) == 0) {
-                shared.add(y);
-            }
-        }
+        List<long[]> shared = world.common(square, row);
         due("touches", x.touches(q, line), shared.size());
         for (int k = 0; k < shared.size(); k++) {
             dueRow(x, "common", x.common(q, line, k), POINT, shared.get(k));
@@ -421,18 +280,12 @@ public final class SmallWorldTest {
     private void duals() {
         for (int k = 0; k < 400; k++) {
             ProjectiveRows x = begun();
-            long[] row = anyRow(POINT);
+            long[] row = chance.row(POINT);
             dueRow(x, "dual", x.dual(Check.make(x, POINT, row)), world.n - 1, row);
             dueRow(x, "dual", x.dual(Check.make(x, world.n - 1, row)), POINT, row);
             if (world.n == 3) {
-                long[] line = anyRow(LINE);
-                BitSet shared = new BitSet();
-                shared.set(0, world.points.size());
-                for (long[] y : world.inOrder(world.setOf(LINE, line))) {
-                    shared.and(world.setOf(PLANE, world.normal(y)));
-                }
-                dueRow(x, "dual", x.dual(Check.make(x, LINE, line)), LINE,
-                    world.onlyAround(LINE, shared));
+                long[] line = chance.row(LINE);
+                dueRow(x, "dual", x.dual(Check.make(x, LINE, line)), LINE, world.dualOfLine(line));
             }
             dualOfMap(x);
             dualOfQuadric(x);
@@ -441,7 +294,7 @@ public final class SmallWorldTest {
 
     /** The dual of a map does to the rows of flats what the map does to the flats. */
     private void dualOfMap(ProjectiveRows x) {
-        long[] square = anyMap();
+        long[] square = chance.map();
         int size = world.width * world.width;
         long[] dual = rowOf(x, x.dual(Check.make(x, MAP, square)), size);
         for (long[] u : world.points) {
@@ -452,7 +305,7 @@ public final class SmallWorldTest {
     }
 
     private void dualOfQuadric(ProjectiveRows x) {
-        long[] square = anyQuadric();
+        long[] square = chance.quadric();
         int d = x.dual(Check.make(x, QUADRIC, square));
         if (world.rankOfSquare(square) < world.width) {
             due("dual of a quadric", d, NONE);
@@ -468,41 +321,14 @@ public final class SmallWorldTest {
 
     /** Looks through all quadrics. */
     private void quadricsByPoints(int runs) {
-        List<long[]> all = new ArrayList<>();
-        List<BitSet> sets = new ArrayList<>();
-        int unknown = world.width * (world.width + 1) / 2;
-        int codes = (int) Math.round(Math.pow(world.p, unknown));
-        for (int code = 1; code < codes; code++) {
-            long[] square = new long[world.width * world.width];
-            int left = code;
-            for (int i = 0; i < world.width; i++) {
-                for (int j = i; j < world.width; j++) {
-                    square[i * world.width + j] = left % world.p;
-                    square[j * world.width + i] = left % world.p;
-                    left /= world.p;
-                }
-            }
-            if (SmallWorld.key(square).equals(SmallWorld.key(world.normal(square)))) {
-                all.add(square);
-                sets.add(world.setOfQuadric(square));
-            }
-        }
         for (int k = 0; k < runs; k++) {
             ProjectiveRows x = begun();
             BitSet gathered = new BitSet();
             for (int g = 0; g < 9; g++) {
-                long[] y = anyRow(POINT);
+                long[] y = chance.row(POINT);
                 x.gather(Check.make(x, POINT, y));
                 gathered.set(world.indexOf(y));
-                long[] found = null;
-                int count = 0;
-                for (int i = 0; i < all.size(); i++) {
-                    if (isWithin(gathered, sets.get(i))) {
-                        count++;
-                        found = all.get(i);
-                    }
-                }
-                dueRow(x, "quadric", x.quadric(), QUADRIC, count == 1 ? found : null);
+                dueRow(x, "quadric", x.quadric(), QUADRIC, world.quadricOn(gathered));
             }
         }
     }
@@ -511,12 +337,12 @@ public final class SmallWorldTest {
         int[] counts = new int[3];
         for (int k = 0; k < runs; k++) {
             ProjectiveRows x = begun();
-            long[][] six = anySix(k % 3);
+            long[][] six = chance.six(k % 3);
             for (long[] y : six) {
                 x.gather(Check.make(x, POINT, y));
             }
             for (int theorem = 0; theorem < 3; theorem++) {
-                int want = holds(theorem, six);
+                int want = world.holds(theorem, six);
                 due("holds(" + theorem + ")", x.holds(theorem), want);
                 counts[theorem] += want >= 0 ? 1 : 0;
             }
@@ -525,89 +351,5 @@ public final class SmallWorldTest {
         for (int theorem = 0; theorem < 3; theorem++) {
             Check.due(name + "theorem " + theorem + " was asked often", counts[theorem] > 20);
         }
-    }
-
-    /** Six points, mostly such that a theorem can be asked of them. */
-    private long[][] anySix(int theorem) {
-        long[][] six = new long[6][];
-        for (int i = 0; i < 6; i++) {
-            six[i] = anyRow(POINT);
-        }
-        if (theorem == 0) {
-            six[4] = near(six[0], six[2], POINT);
-            six[5] = near(six[1], six[3], POINT);
-        } else if (theorem == 1) {
-            long[] center = anyRow(POINT);
-            for (int i = 0; i < 3; i++) {
-                six[i + 3] = near(center, six[i], POINT);
-            }
-        } else {
-            long[] square = anyQuadric();
-            BitSet set = world.setOfQuadric(square);
-            if (set.cardinality() > 0) {
-                for (int i = 0; i < 6; i++) {
-                    int place = set.nextSetBit(any(world.points.size()));
-                    six[i] = world.points.get(place < 0 ? set.nextSetBit(0) : place);
-                }
-            }
-        }
-        return six;
-    }
-
-    private int holds(int theorem, long[][] six) {
-        if (theorem == 0 && (world.rankOf(six[0], six[2], six[4]) == 3
-            || world.rankOf(six[1], six[3], six[5]) == 3)) {
-            return NONE;
-        }
-        if (theorem == 1 && !areThroughOnePoint(six)) {
-            return NONE;
-        }
-        if (theorem == 2 && !areOnAQuadric(six)) {
-            return NONE;
-        }
-        int[][] sides = theorem == 1
-            ? new int[][] {{0, 1, 3, 4}, {1, 2, 4, 5}, {2, 0, 5, 3}}
-            : new int[][] {{0, 1, 3, 4}, {1, 2, 4, 5}, {2, 3, 5, 0}};
-        long[][] met = new long[3][];
-        for (int k = 0; k < 3; k++) {
-            BitSet one = lineOf(six[sides[k][0]], six[sides[k][1]]);
-            BitSet other = lineOf(six[sides[k][2]], six[sides[k][3]]);
-            if (one == null || other == null) {
-                return NONE;
-            }
-            BitSet both = (BitSet) one.clone();
-            both.and(other);
-            met[k] = world.onlyWithin(POINT, both);
-            if (met[k] == null) {
-                return NONE;
-            }
-        }
-        return world.rankOf(met) < 3 ? 1 : 0;
-    }
-
-    private boolean areThroughOnePoint(long[][] six) {
-        BitSet shared = new BitSet();
-        shared.set(0, world.points.size());
-        for (int i = 0; i < 3; i++) {
-            BitSet line = lineOf(six[i], six[i + 3]);
-            if (line == null) {
-                return false;
-            }
-            shared.and(line);
-        }
-        return !shared.isEmpty();
-    }
-
-    private boolean areOnAQuadric(long[][] six) {
-        long[][] conditions = new long[6][];
-        for (int i = 0; i < 6; i++) {
-            long a = six[i][0];
-            long b = six[i][1];
-            long c = six[i][2];
-            int p = world.p;
-            conditions[i] = new long[] {a * a % p, b * b % p, c * c % p, a * b % p, a * c % p,
-                b * c % p};
-        }
-        return world.rankOf(conditions) < 6;
     }
 }
