@@ -28,6 +28,7 @@ public final class EdgesTest {
         on();
         crossAndFourth();
         pairAndMap();
+        mapIsObject0();
         order();
         gatherAndForget();
         quadric();
@@ -307,6 +308,30 @@ public final class EdgesTest {
             due("13: so there is no MAP", x.map(), NONE);
             due("12: the first again", x.pair(A, A), 1);
             due("12: the same once more", x.pair(A, A), 2);
+        }
+    }
+
+    /** The least answer of map: the MAP was there before all POINTS. */
+    private static void mapIsObject0() {
+        for (int n = 2; n <= 3; n++) {
+            Asked x = begun(n, 5);
+            long[] same = new long[(n + 1) * (n + 1)];
+            for (int i = 0; i <= n; i++) {
+                same[i * (n + 2)] = 1;
+            }
+            due("4: the MAP that leaves all", x.row(MAP, same), 0);
+            for (int k = 0; k <= n + 1; k++) {
+                long[] point = new long[n + 1];
+                Arrays.fill(point, k <= n ? 0 : 1);
+                if (k <= n) {
+                    point[k] = 1;
+                }
+                int a = x.row(POINT, point);
+                due("12: how many", x.pair(a, a), k + 1);
+            }
+            due("13: the MAP that there is", x.map(), 0);
+            due("13: no PAIR is left", x.told(4), 0);
+            due("12: the first again", x.pair(1, 1), 1);
         }
     }
 
